@@ -410,7 +410,6 @@ public final class ParserProof {
         /** Whether there is one; if not, what it leaves of the automaton is of no use. */
         boolean makeCanonical() {
             grammar.learn();
-            automaton.count = 0;
             Arrays.fill(draft, 0);
             draft[coreOf(grammar.top(), 0)] = bitOf(END);
             close();

@@ -18,6 +18,7 @@ public final class PromisesTest {
         promise2();
         promise3();
         promise4();
+        promise4Aheads();
         promise4Limits();
         promise5();
         promise6();
@@ -98,7 +99,27 @@ public final class PromisesTest {
             "has 0 0 0 $ : 1; check : 0");
         run("4 no parse then, but the input", SINGLE + "; feed a : 1; parse 400 : 1; build : 3; nodes : 0; depth : 0",
             "node 0 0 : Index; parse 400 : 1");
+        run("4 8 rules and a nullable start", "rule A= : 0; rule A=aBBB : 1; rule B=b : 2; rule B=cC : 3; rule C= : 4; rule C=d : 5",
+            "rule D= : 6; rule D=AAAA : 7; build : 14; entry 0 $ : 100; entry 1 $ : 200; has 0 8 0 $ : 1; has 1 8 1 $ : 1; check : 0");
         run("4 no rules", "build : State; states : 0; rule A= : 0; clear : ok; build : State");
+    }
+
+    private static void promise4Aheads() {
+        run("4 nullable through a chain that stands in the slowest order", "rule A=aDAb : 0; rule A=B : 1; rule B=C : 2; rule C=D : 3",
+            "rule D= : 4; build : 16; entry 0 a : 5; has 5 4 0 a : 1; has 5 4 0 b : 1; has 5 4 0 e : 0; has 5 4 0 $ : 0; check : 0");
+        run("4 first through such a chain", "rule A=aDAb : 0; rule A=B : 1; rule B=C : 2; rule C=D : 3; rule D=e : 4; build : 19",
+            "entry 0 a : 5; has 5 4 0 a : 1; has 5 4 0 e : 1; has 5 4 0 b : 0; has 5 4 0 $ : 0; check : 0");
+        run("4 nullable by rule 0", "rule A= : 0; rule A=cBAd : 1; rule B=b : 2; build : 11; has 2 2 0 c : 1; has 2 2 0 d : 1; has 2 2 0 $ : 0");
+        run("4 not nullable by what is behind a terminal", "rule A=CBd : 0; rule B=aD : 1; rule C=c : 2; rule D= : 3; build : 8",
+            "has 0 2 0 a : 1; has 0 2 0 d : 0; has 0 2 0 $ : 0");
+        run("4 first of several nullable ones", "rule A=BCDe : 0; rule B=b : 1; rule C=c : 2; rule C= : 3; rule D=d : 4; rule D= : 5",
+            "build : 9; has 0 1 0 c : 1; has 0 1 0 d : 1; has 0 1 0 e : 1; has 0 1 0 b : 0; has 0 1 0 $ : 0; check : 0");
+        run("4 closed through rules that stand before those that ask", "rule D=Ca : 0; rule A=b : 1; rule B=A : 2; rule C=B : 3",
+            "build : 7; has 0 1 0 a : 1; has 0 2 0 a : 1; has 0 3 0 a : 1; has 0 1 0 $ : 0; check : 0");
+        run("4 nothing known of an earlier grammar", "rule A=CBd : 0; rule B= : 1; rule C=c : 2; rule B=b : 3; build : 7; has 0 2 0 d : 1",
+            "has 0 2 0 b : 1; clear : ok; rule A=CBd : 0; rule B=a : 1; rule C=c : 2; build : 7; has 0 2 0 d : 0; has 0 2 0 b : 0; has 0 2 0 a : 1",
+            "clear : ok; rule D=CAd : 0; rule A= : 1; rule C=c : 2; rule A=b : 3; build : 7; has 0 2 0 d : 1; has 0 2 0 b : 1",
+            "clear : ok; rule D=CAd : 0; rule A=a : 1; rule C=c : 2; build : 7; has 0 2 0 d : 0; has 0 2 0 b : 0; has 0 2 0 a : 1");
     }
 
     private static void promise4Limits() {
@@ -112,6 +133,8 @@ public final class PromisesTest {
             "entry 49 0 : -1; entry 50 0 : Index; set 0 0 49 : ok; set 0 0 50 : Argument");
         run("4 51 states", "rule A=Bbc : 0; rule A=AcB : 1; rule A=AAB : 2; rule B=dAaa : 3; build : Unsupported; states : 0",
             "entry 0 0 : Index; check : State; fault 0 : -1; depth : 0; clear : ok; rule A=a : 0; build : 3; check : 0");
+        run("4 nothing left of 51 states", "rule A=Bbc : 0; rule A=AcB : 1; rule A=AAB : 2; rule B=dAaa : 3; build : Unsupported; clear : ok",
+            "rule A=abcd : 0; rule A=bcde : 1; rule A=cdea : 2; rule A=deab : 3; build : 18; check : 0");
         run("4 117 states", "rule B=dAa : 0; rule C=cBcc : 1; rule A=baCb : 2; rule C=Ab : 3; rule A=dd : 4; rule B=Aa : 5",
             "rule B=cAA : 6; rule A=adBB : 7; build : Unsupported; states : 0");
     }
@@ -296,11 +319,13 @@ public final class PromisesTest {
             + "feed a : 10; feed a : 11; feed a : 12; feed a : 13; feed a : 14";
         run("14 60 nodes and a 61st", "rule A=AaBB : 0; rule A= : 1; rule B= : 2; build : 5; " + feeds + "; parse 400 : 1; nodes : 57",
             "feed a : 15; parse 400 : 4; nodes : 60; depth : 5; node 59 2 : -1; node 60 0 : Index; parse 60 : 0; parse 61 : 4; parse 60 : 0");
-        run("14 no room for a terminal", "rule A=aBCA : 0; rule A= : 1; rule B= : 2; rule C= : 3; build : 6; " + feeds,
+        run("14 no room with a full stack", "rule A=aBCA : 0; rule A= : 1; rule B= : 2; rule C= : 3; build : 6; " + feeds,
             "parse 400 : 1; nodes : 57; feed a : 15; parse 400 : 4; nodes : 60; feed a : 16; feed a : 17; feed a : 18; feed a : 19",
             "feed a : 20; parse 400 : 4; nodes : 60; depth : 61");
         String six = "; feed a : 15; feed a : 16; feed a : 17; feed a : 18; feed a : 19; feed a : 20";
         String sixty = "rule A=AB : 0; rule A=B : 1; rule B=a : 2; rule C=A : 3; build : 5; " + feeds + six;
+        run("14 no room at a go", "rule A=AaB : 0; rule A=C : 1; rule B= : 2; rule C=D : 3; rule D= : 4; build : 6; " + feeds + six,
+            "parse 400 : 4; nodes : 60; depth : 2; node 59 0 : 0; node 59 2 : -1; node 59 4 : 19; parse 60 : 0; parse 61 : 4");
         run("14 60 nodes and good", sixty + "; parse 400 : 1; nodes : 60; depth : 2; node 59 2 : -1; node 59 4 : 20; parse 60 : 0");
         run("14 a 61st at the end", "rule A=AB : 0; rule A= : 1; rule B=a : 2; build : 4; " + feeds + six,
             "parse 400 : 4; nodes : 60; depth : 3; node 59 0 : 1; node 59 2 : -1");
