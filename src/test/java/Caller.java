@@ -5,14 +5,22 @@ import java.util.Map;
 
 /** Calls the methods of ParserProof, or of something with the same face, by their names. */
 final class Caller {
+    private static final Map<Class<?>, Map<String, Method>> KNOWN = new HashMap<>();
+
     private final Object target;
-    private final Map<String, Method> methods = new HashMap<>();
+    private final Map<String, Method> methods;
 
     Caller(Object target) {
         this.target = target;
-        for (Method method : target.getClass().getDeclaredMethods()) {
+        methods = KNOWN.computeIfAbsent(target.getClass(), Caller::methodsOf);
+    }
+
+    private static Map<String, Method> methodsOf(Class<?> type) {
+        Map<String, Method> methods = new HashMap<>();
+        for (Method method : type.getDeclaredMethods()) {
             methods.put(method.getName() + "/" + method.getParameterCount(), method);
         }
+        return methods;
     }
 
     /** The answer as a text: a number, a boolean as 1 or 0, "ok" for none, or an exception's simple name. */
